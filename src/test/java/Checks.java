@@ -31,11 +31,16 @@ final class Checks {
         }
     }
 
-    /** Every answer that tells of the state, so that "changing nothing" can be seen. */
+    /**
+     * What tells of the state, so that "changing nothing" can be seen; of memory only the edges of
+     * its blocks with the first frames, as an object is good for 512 calls.
+     */
     static String pictureOf(TaskComputer computer) {
         StringBuilder text = new StringBuilder();
         for (int address = 0; address < 512; address++) {
-            text.append(computer.peek(address)).append(' ');
+            if (address % 128 == 0 || address % 128 >= 116) {
+                text.append(computer.peek(address)).append(' ');
+            }
         }
         for (int t = 0; t < 4; t++) {
             text.append('/').append(computer.state(t)).append(' ').append(computer.sleeps(t));

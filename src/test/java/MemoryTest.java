@@ -15,6 +15,7 @@ public final class MemoryTest {
         for (int address = 0; address < 512; address++) {
             Checks.due("peek(" + address + ")", x.peek(address), 0);
         }
+        x = new TaskComputer();
         for (int t = 0; t < 4; t++) {
             Checks.due("state", x.state(t), 0);
             Checks.due("status", x.status(t), 0);

@@ -536,16 +536,16 @@ public final class TaskComputer {
             int mode = op >> 4 & 3;
             boolean upper = op >= 0xc0;
             int kind = op & 15;
-            if (op >= 0x80 && kind == 14) {
-                operate(LOAD, upper ? Registers.S : Registers.Y, mode);
-            } else if (op >= 0x80 && kind == 15) {
-                operate(STORE, upper ? Registers.S : Registers.Y, mode);
-            } else if (op >= 0x80 && !upper && kind == 3) {
-                operate(COMPARE, Registers.D, mode);
-            } else if (op >= 0x80 && !upper && kind == 12) {
-                operate(COMPARE, Registers.Y, mode);
-            } else {
+            if (op < 0x80 || upper && kind < 14) {
                 outcome = INVALID;
+                return;
+            }
+            switch (kind) {
+                case 3: operate(COMPARE, Registers.D, mode); break;
+                case 12: operate(COMPARE, Registers.Y, mode); break;
+                case 14: operate(LOAD, upper ? Registers.S : Registers.Y, mode); break;
+                case 15: operate(STORE, upper ? Registers.S : Registers.Y, mode); break;
+                default: outcome = INVALID; break;
             }
         }
 
@@ -611,6 +611,10 @@ public final class TaskComputer {
             }
             int form = p & 15;
             boolean indirect = (p & 16) != 0;
+            if (!isIndexedForm(form, indirect)) {
+                outcome = INVALID;
+                return 0;
+            }
             int address = base;
             switch (form) {
                 case 0:
@@ -629,13 +633,21 @@ public final class TaskComputer {
                 // The fetch stands first: PC counts from behind what is fetched.
                 case 12: address = Calculator.signed(fetch(BYTE), BYTE) + registers.pc; break;
                 case 13: address = fetch(WORD) + registers.pc; break;
-                case 15: address = fetch(WORD); break;
-                default: outcome = INVALID; break;
-            }
-            if (indirect ? form == 0 || form == 2 : form == 15) {
-                outcome = INVALID;
+                default: address = fetch(WORD); break;
             }
             return indirect ? load(address, WORD) : address & WORD_MASK;
+        }
+
+        private static boolean isIndexedForm(int form, boolean indirect) {
+            switch (form) {
+                case 0:
+                case 2: return !indirect;
+                case 7:
+                case 10:
+                case 14: return false;
+                case 15: return indirect;
+                default: return true;
+            }
         }
 
         private void callAt(int mode) {

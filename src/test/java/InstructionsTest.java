@@ -60,6 +60,11 @@ public final class InstructionsTest {
                 .has(Bench.CC, 4).took(4);
         bench("EORB indexed").with(Bench.B, 9).with(Bench.U, 20).bytes(20, 3).does(0xe8, 0xc0)
                 .has(Bench.B, 10).has(Bench.U, 21).took(3);
+        bench("SUBB immediate").with(Bench.B, 9).does(0xc0, 4).has(Bench.B, 5).has(Bench.A, 0);
+        bench("CMPB immediate").with(Bench.B, 9).does(0xc1, 9).has(Bench.B, 9).has(Bench.CC, 4);
+        bench("SBCA immediate").with(Bench.A, 9).with(Bench.CC, 1).does(0x82, 4).has(Bench.A, 4);
+        bench("ADCB immediate").with(Bench.B, 9).with(Bench.CC, 1).does(0xc9, 4).has(Bench.B, 14);
+        bench("ADDA immediate").with(Bench.A, 9).with(Bench.CC, 1).does(0x8b, 4).has(Bench.A, 13);
         bench("BITA direct").with(Bench.A, 0x80).bytes(20, 0xff).does(0x95, 20)
                 .has(Bench.A, 0x80).has(Bench.CC, 8).took(3);
     }
@@ -158,6 +163,7 @@ public final class InstructionsTest {
                 .has(Bench.CC, 15).took(2);
         bench("LEAY from 0").with(Bench.Y, 1).with(Bench.CC, 15).does(0x31, 0x20).has(Bench.Y, 1)
                 .has(Bench.CC, 11);
+        bench("LEAX, flags alone Z").with(Bench.X, 1).does(0x30, 0x01).has(Bench.CC, 0);
         bench("LEAS").with(Bench.CC, 15).does(0x32, 0x61).has(Bench.S, 129).has(Bench.CC, 15);
         bench("LEAU").with(Bench.U, 1).does(0x33, 0x5f).has(Bench.U, 0).has(Bench.CC, 0);
     }

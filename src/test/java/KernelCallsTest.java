@@ -47,6 +47,23 @@ public final class KernelCallsTest {
         Checks.due("copied byte", x.peek(200 - 128), 77);
         Checks.due("caller's frame", x.peek(245), 0);
         Checks.due("cycles", x.cycles(), 7);
+        x.run(1);
+        Checks.due("caller goes on", x.register(1, 5), 136);
+        onlyTheBlockIsCopied();
+    }
+
+    private static void onlyTheBlockIsCopied() {
+        TaskComputer x = started(0, 9, 0x8e, 0, 3, 0x3f, 1);
+        x.start(1, 128, 0);
+        x.poke(255, 11);
+        x.poke(128, 12);
+        x.poke(384, 13);
+        x.run(2);
+        Checks.due("new task", x.state(2), 2);
+        Checks.due("below the new block", x.peek(255), 11);
+        Checks.due("above the old block", x.peek(128), 12);
+        Checks.due("first byte", x.peek(256), 0x8e);
+        Checks.due("above the new block", x.peek(384), 13);
     }
 
     private static void forkTakesTheLeastFreeTask() {
@@ -158,6 +175,9 @@ public final class KernelCallsTest {
             Checks.due("C", x.register(t, 10), 128);
             Checks.due("runs", x.state(t), 1);
             Checks.due("frame's A", x.peek(128 * t + 117), t);
+            x.poke(128 * t + 4, 0x12);
+            x.run(1);
+            Checks.due("it goes on", x.register(t, 5), 128 * t + 5);
         }
     }
 
@@ -172,6 +192,9 @@ public final class KernelCallsTest {
             Checks.due("runs", x.state(0), 1);
             Checks.due("PC", x.register(0, 5), 2);
             Checks.due("cycles", x.cycles(), 2);
+            x.poke(2, 0x12);
+            x.run(1);
+            Checks.due("it goes on", x.register(0, 5), 3);
         }
     }
 
@@ -184,6 +207,9 @@ public final class KernelCallsTest {
         Checks.due("E is back", x.register(0, 10), 128);
         Checks.due("left", x.left(), 12);
         Checks.due("frame's CC", x.peek(116), 128);
+        TaskComputer y = started(0, 99, 0x1a, 0x7e, 0x3f, 4);
+        y.run(2);
+        Checks.due("all other bits of CC stay", y.register(0, 10), 0xfe);
     }
 
     private static void framesOutsideMemory() {

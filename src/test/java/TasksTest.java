@@ -45,6 +45,20 @@ public final class TasksTest {
             Checks.due("frame byte " + i, x.peek(500 + i), frame[i]);
         }
         Checks.due("below the frame", x.peek(499), 99);
+        startForgetsWhatWasAsked();
+    }
+
+    private static void startForgetsWhatWasAsked() {
+        TaskComputer x = new TaskComputer();
+        x.start(0, 0, 0);
+        x.start(1, 0, 0);
+        Checks.pokeAll(x, 244, 0x0f, 1, 2, 3, 4, 5, 6, 7, 8, 9, 10, 11);
+        Checks.due("X of task 1", x.register(1, 1), 0x0405);
+        x.start(2, 0x1234, 7);
+        int[] wanted = {0x0700, 0, 0, 0, 384, 0x1234, -1, -1, 7, 0, 128, 0};
+        for (int k = 0; k < 12; k++) {
+            Checks.due("register " + k, x.register(2, k), wanted[k]);
+        }
     }
 
     private static void laterTasksQueue() {

@@ -123,6 +123,24 @@ public final class TimerTest {
         x.run(1);
         Checks.due("served", x.ticks(), 1);
         Checks.due("lost stay", x.lost(), 2);
+        onlyIMasks();
+    }
+
+    private static void onlyIMasks() {
+        TaskComputer x = withNothings(0x1a, 0xef);
+        x.timer(16);
+        x.run(16);
+        Checks.due("CC", x.register(0, 10), 0xef);
+        Checks.due("served", x.ticks(), 1);
+        TaskComputer y = new TaskComputer();
+        Checks.pokeAll(y, 0, 0x1a, 16, 0x20, 0xfe);
+        y.start(0, 0, 0);
+        y.timer(16);
+        y.run(8);
+        Checks.due("pending", y.lost(), 100000);
+        y.stop(0);
+        y.run(1);
+        Checks.due("served when none is RUNNING", y.ticks(), 1);
     }
 
     private static void pendingTickOutlivesTheTimer() {

@@ -4,7 +4,6 @@ public final class AddressingTest {
 
     public static void main(String[] args) {
         immediateDirectExtended();
-        addressesWrapAndEndAt511();
         shortOffsets();
         changesOfTheRegister();
         offsetsOfAccumulators();
@@ -28,17 +27,6 @@ public final class AddressingTest {
         bench("direct outside").with(Bench.DP, 2).does(0x96, 0).has(Bench.A, 0).took(3);
         bench("extended").bytes(400, 6).does(0xb6, 1, 144).has(Bench.A, 6).took(4).at(303);
         bench("extended word").bytes(400, 6, 5).does(0xbe, 1, 144).has(Bench.X, 0x0605).took(5);
-    }
-
-    private static void addressesWrapAndEndAt511() {
-        bench("word at 511").bytes(511, 3).does(0xbe, 1, 255).has(Bench.X, 0x0300);
-        bench("word at 65535").bytes(0, 4).does(0xbe, 255, 255).has(Bench.X, 4);
-        bench("store at 511").with(Bench.X, 0x0102).does(0xbf, 1, 255).holds(511, 1).holds(0, 0);
-        bench("store at 65535").with(Bench.X, 0x0102).does(0xbf, 255, 255).holds(0, 2);
-        bench("store at 512").with(Bench.A, 9).does(0xb7, 2, 0).took(4).holds(0, 0).at(303);
-        bench("store at 510").with(Bench.X, 0x0102).does(0xbf, 1, 254).holds(510, 1).holds(511, 2);
-        bench("PC wraps").with(Bench.PC, 65535).bytes(0, 9).does().at(1).took(4);
-        bench("code outside is 0").with(Bench.PC, 600).bytes(0, 1).does().holds(0, 255).at(602);
     }
 
     private static Bench lea(String name, int register, int value) {

@@ -80,6 +80,11 @@ final class Bench {
         return has(PC, pc);
     }
 
+    Bench isValid() {
+        Checks.due(name + ": state(0) of a valid one", computer.state(0), 1);
+        return this;
+    }
+
     Bench isInvalid() {
         Checks.due(name + ": state(0)", computer.state(0), 0);
         Checks.due(name + ": status(0)", computer.status(0), 255);

@@ -13,7 +13,6 @@ public final class InstructionsTest {
         loadedAddresses();
         pushes();
         pulls();
-        pushesBeyondMemory();
         Checks.end();
     }
 
@@ -201,14 +200,5 @@ public final class InstructionsTest {
         bench("PULS B, Y").bytes(128, 9, 1, 2).does(0x35, 0x24).took(5).has(Bench.B, 9)
                 .has(Bench.Y, 258).has(Bench.S, 131).at(302);
         bench("PULS nothing").does(0x35, 0).took(2).has(Bench.S, 128);
-    }
-
-    private static void pushesBeyondMemory() {
-        bench("PSHU at 1").with(Bench.U, 1).with(Bench.X, 0x1234).does(0x36, 0x10)
-                .has(Bench.U, 65535).holds(0, 0x34).took(4);
-        bench("PULU at 65535").with(Bench.U, 65535).bytes(0, 9).does(0x37, 0x10)
-                .has(Bench.X, 9).has(Bench.U, 1).took(4);
-        bench("PSHU far out").with(Bench.U, 1000).with(Bench.X, 0x1234).does(0x36, 0x10)
-                .has(Bench.U, 998).took(4);
     }
 }

@@ -1,12 +1,17 @@
+import java.util.Arrays;
+
 /** Promise 7: what is INVALID, and that it stores nothing, takes one cycle and ends the task. */
 public final class InvalidTest {
     public static void main(String[] args) {
         firstBytes();
         secondPage();
         indexedForms();
+        immediateStores();
         registerNumbers();
         nothingIsStored();
         theNextTaskRuns();
+        theLastTaskEnds();
+        oneCycleOfTheTimer();
         Checks.end();
     }
 
@@ -47,7 +52,7 @@ public final class InvalidTest {
             if (isInvalidFirst(op)) {
                 bench.isInvalid();
             } else {
-                Checks.due("op " + op + " is valid", bench.computer.state(0), 1);
+                bench.isValid();
             }
         }
     }
@@ -59,7 +64,7 @@ public final class InvalidTest {
             boolean immediateStore = op == 0x8f || op == 0xcf;
             Bench bench = new Bench("0x10, " + op).does(0x10, op, 0, 0);
             if ((lower || upper) && !immediateStore) {
-                Checks.due("0x10, " + op + " is valid", bench.computer.state(0), 1);
+                bench.isValid();
             } else {
                 bench.isInvalid();
             }
@@ -67,19 +72,45 @@ public final class InvalidTest {
     }
 
     private static void indexedForms() {
-        int[] ops = {0x30, 0x33, 0xa6, 0xa7, 0xad, 0xaf, 0x6c, 0x6e, 0x6f, 0xed};
-        for (int op : ops) {
-            for (int p = 0; p < 256; p++) {
-                int form = p & 15;
-                boolean indirect = (p & 16) != 0;
-                boolean invalid = p >= 128 && (isIn(form, 7, 10, 14)
-                        || indirect && isIn(form, 0, 2) || !indirect && form == 15);
-                Bench bench = new Bench("op " + op + ", p " + p).does(op, p, 0, 0);
-                if (invalid) {
-                    bench.isInvalid();
-                } else {
-                    Checks.due("op " + op + ", p " + p + " is valid", bench.computer.state(0), 1);
-                }
+        for (int op = 0; op < 256; op++) {
+            int high = op >> 4;
+            boolean address = op >= 0x30 && op <= 0x33;
+            if (address || isIn(high, 6, 10, 14) && !isInvalidFirst(op)) {
+                formsOf(op);
+            }
+        }
+        int[] second = {0xa3, 0xac, 0xae, 0xaf, 0xee, 0xef};
+        for (int op : second) {
+            formsOf(0x10, op);
+        }
+    }
+
+    private static void formsOf(int... ops) {
+        for (int p = 0; p < 256; p++) {
+            int form = p & 15;
+            boolean indirect = (p & 16) != 0;
+            boolean invalid = p >= 128 && (isIn(form, 7, 10, 14)
+                    || indirect && isIn(form, 0, 2) || !indirect && form == 15);
+            int[] code = Arrays.copyOf(ops, ops.length + 3);
+            code[ops.length] = p;
+            Bench bench = new Bench("ops " + Arrays.toString(ops) + ", p " + p).does(code);
+            if (invalid) {
+                bench.isInvalid();
+            } else {
+                bench.isValid();
+            }
+        }
+    }
+
+    private static void immediateStores() {
+        int[][] codes = {{0x87, 0}, {0x8f, 0, 0}, {0xc7, 0}, {0xcd, 0, 0}, {0xcf, 0, 0},
+            {0x10, 0x8f, 0, 0}, {0x10, 0xcf, 0, 0}};
+        for (int[] code : codes) {
+            Bench bench = new Bench("store " + Arrays.toString(code)).with(Bench.D, 0x1234)
+                    .with(Bench.X, 0x5678).with(Bench.Y, 0x5678).with(Bench.U, 0x5678).does(code);
+            bench.isInvalid();
+            for (int i = 0; i < code.length; i++) {
+                bench.holds(Bench.CODE + i, code[i]);
             }
         }
     }
@@ -93,7 +124,7 @@ public final class InvalidTest {
             for (int op = 0x1e; op <= 0x1f; op++) {
                 Bench bench = new Bench("op " + op + ", " + digits).does(op, digits);
                 if (words || bytes) {
-                    Checks.due("op " + op + ", " + digits + " is valid", bench.computer.state(0), 1);
+                    bench.isValid();
                 } else {
                     bench.isInvalid();
                 }
@@ -144,5 +175,34 @@ public final class InvalidTest {
         Checks.due("one cycle of the timer", x.left(), 15);
         Checks.due("start anew", x.start(0, 0, 0), true);
         Checks.due("behind", x.queued(0), 0);
+    }
+
+    private static void theLastTaskEnds() {
+        TaskComputer x = new TaskComputer();
+        x.poke(0, 0x38);
+        x.start(3, 0, 5);
+        Checks.due("it is a step", x.run(9), 1);
+        Checks.due("state", x.state(3), 0);
+        Checks.due("status", x.status(3), 255);
+        Checks.due("register", x.register(3, 5), -1);
+        Checks.due("it is not stacked", x.peek(500 + 11), 0);
+        Checks.due("cycles", x.cycles(), 1);
+    }
+
+    /** Long as it is, the instruction takes one cycle, which can bring a tick. */
+    private static void oneCycleOfTheTimer() {
+        TaskComputer x = new TaskComputer();
+        for (int address = 0; address < 15; address++) {
+            x.poke(address, 0x12);
+        }
+        Checks.pokeAll(x, 15, 0x10, 0xaf, 0x8f, 0, 0);
+        x.start(0, 0, 0);
+        x.timer(16);
+        x.run(15);
+        Checks.due("left", x.left(), 1);
+        x.run(1);
+        Checks.due("ended", x.state(0), 0);
+        Checks.due("left", x.left(), 16);
+        Checks.due("pending", x.lost(), 100000);
     }
 }

@@ -5,16 +5,21 @@ public final class KernelCallsTest {
         forkTakesTheLeastFreeTask();
         forkWithoutAFreeTask();
         forkWithXTooHigh();
+        forkWithXAtTheEdges();
+        forkRefusedForBothReasons();
+        forkTillNoTaskIsFree();
+        forkCopiesTheCallersOwnBlock();
+        forkIntoABlockThatWasUsed();
         forkWithTheFrameInTheNewBlock();
         forkWithTheFrameWhereTheNewOneLies();
         sleepOfNoTicksGivesWay();
         sleepAlone();
+        sleepAtTheEdges();
         exit();
+        exitLeavesTheNextRunning();
         identity();
         otherCalls();
         callsHaveTwoCyclesAndLeaveAFrame();
-        framesOutsideMemory();
-        frameAcrossTheEndOfMemory();
         Checks.end();
     }
 
@@ -108,6 +113,92 @@ public final class KernelCallsTest {
         }
     }
 
+    private static void forkWithXAtTheEdges() {
+        int[] good = {0, 1, 127};
+        for (int low : good) {
+            TaskComputer x = started(0, 3, 0x8e, 0, low, 0x1a, 1, 0x3f, 1);
+            x.run(3);
+            Checks.due("A", x.register(0, 8), 1);
+            Checks.due("B stays", x.register(0, 9), 0);
+            Checks.due("C is lost", x.register(0, 10) & 1, 0);
+            Checks.due("PC of the new one", x.register(1, 5), 128 + low);
+        }
+    }
+
+    private static void forkRefusedForBothReasons() {
+        TaskComputer x = started(0, 3, 0x8e, 0, 128, 0x3f, 1);
+        x.start(1, 0, 0);
+        x.start(2, 0, 0);
+        x.start(3, 0, 0);
+        x.run(2);
+        Checks.due("B", x.register(0, 9), 1);
+        Checks.due("CC", x.register(0, 10), 129);
+        Checks.due("RUNNING", x.state(0), 1);
+        Checks.due("next in the queue", x.queued(0), 1);
+    }
+
+    /** The caller forks again and again; a task that ended is FREE for the next fork. */
+    private static void forkTillNoTaskIsFree() {
+        TaskComputer x = started(0, 3, 0x8e, 0, 20, 0x3f, 1, 0x20, 0xfc);
+        x.run(2);
+        Checks.due("first", x.register(0, 8), 1);
+        x.run(2);
+        Checks.due("second", x.register(0, 8), 2);
+        x.run(2);
+        Checks.due("third", x.register(0, 8), 3);
+        Checks.due("B", x.register(0, 9), 0);
+        x.run(2);
+        Checks.due("fourth is refused", x.register(0, 9), 1);
+        Checks.due("C", x.register(0, 10), 129);
+        Checks.due("A stays", x.register(0, 8), 3);
+        x.stop(2);
+        x.run(2);
+        Checks.due("the one that is FREE again", x.register(0, 8), 2);
+        Checks.due("C is lost", x.register(0, 10), 128);
+        Checks.due("B stays", x.register(0, 9), 1);
+        int[] wanted = {1, 3, 2, -1};
+        for (int k = 0; k < 4; k++) {
+            Checks.due("queued(" + k + ")", x.queued(k), wanted[k]);
+        }
+    }
+
+    /** The code of task 3 lies in block 0, the block that is copied is block 3. */
+    private static void forkCopiesTheCallersOwnBlock() {
+        TaskComputer x = new TaskComputer();
+        Checks.pokeAll(x, 100, 0x8e, 0, 5, 0x3f, 1);
+        x.start(0, 0, 0);
+        x.start(3, 100, 7);
+        x.stop(0);
+        x.poke(384, 61);
+        x.poke(495, 62);
+        x.poke(127, 63);
+        x.run(2);
+        Checks.due("the least FREE one", x.register(3, 8), 0);
+        Checks.due("first byte", x.peek(0), 61);
+        Checks.due("below the frame", x.peek(111), 62);
+        Checks.due("the code was there", x.peek(100), 0);
+        Checks.due("X of the frame is overlaid by the start's", x.peek(121), 0);
+        Checks.due("PC of the new one", x.peek(127), 5);
+        Checks.due("the caller's block stays", x.peek(384), 61);
+        Checks.due("PC of the caller", x.register(3, 5), 105);
+    }
+
+    /** What lay in the block goes; the copied frame is under the new one when S is lower. */
+    private static void forkIntoABlockThatWasUsed() {
+        TaskComputer x = started(0, 9, 0x32, 0x74, 0x8e, 0x00, 0x11, 0x3f, 1);
+        for (int address = 128; address < 256; address++) {
+            x.poke(address, 0xee);
+        }
+        x.run(3);
+        Checks.due("A of the copied frame", x.peek(128 + 105), 9);
+        Checks.due("X of the copied frame", x.peek(128 + 109), 0x11);
+        Checks.due("A of the caller's frame", x.peek(105), 1);
+        Checks.due("CC of the new frame", x.peek(244), 128);
+        Checks.due("first byte", x.peek(128), 0x32);
+        Checks.due("S of the new one", x.register(1, 4), 256);
+        Checks.due("S of the caller", x.register(0, 4), 116);
+    }
+
     /** The block is copied over the caller's frame, and the answer is laid into what lies there. */
     private static void forkWithTheFrameInTheNewBlock() {
         TaskComputer x = started(0, 3, 0x10, 0xce, 0, 200, 0x8e, 0, 7, 0x3f, 1);
@@ -156,6 +247,32 @@ public final class KernelCallsTest {
         Checks.due("sleeps", x.sleeps(0), 2);
         Checks.due("none queued", x.queued(0), -1);
         Checks.due("no step", x.run(4), 0);
+    }
+
+    private static void sleepAtTheEdges() {
+        int[] lengths = {1, 2, 0x7fff, 0x8000, 0xffff};
+        for (int ticks : lengths) {
+            TaskComputer x = started(0, 3, 0x8e, ticks >> 8, ticks & 255, 0x3f, 2);
+            x.run(2);
+            Checks.due("sleeps(" + ticks + ")", x.sleeps(0), ticks);
+            Checks.due("state", x.state(0), 3);
+            x.timer(16);
+            x.run(2);
+            Checks.due("one tick less", x.sleeps(0), ticks - 1);
+            Checks.due("state", x.state(0), ticks == 1 ? 1 : 3);
+        }
+    }
+
+    private static void exitLeavesTheNextRunning() {
+        TaskComputer x = started(0, 0, 0x3f, 3);
+        x.start(1, 0, 255);
+        x.run(1);
+        Checks.due("status 0", x.status(0), 0);
+        Checks.due("FREE", x.state(0), 0);
+        Checks.due("the next", x.state(1), 1);
+        x.run(1);
+        Checks.due("status 255", x.status(1), 255);
+        Checks.due("no step", x.run(1), 0);
     }
 
     private static void exit() {
@@ -210,42 +327,5 @@ public final class KernelCallsTest {
         TaskComputer y = started(0, 99, 0x1a, 0x7e, 0x3f, 4);
         y.run(2);
         Checks.due("all other bits of CC stay", y.register(0, 10), 0xfe);
-    }
-
-    private static void framesOutsideMemory() {
-        TaskComputer x = started(0, 9, 0x10, 0xce, 0x10, 0, 0x8e, 0, 2, 0x3f, 2);
-        x.run(3);
-        Checks.due("SLEEPING for X as it was", x.sleeps(0), 2);
-        Checks.due("A", x.register(0, 8), 0);
-        Checks.due("CC", x.register(0, 10), 0);
-        Checks.due("PC", x.register(0, 5), 0);
-        Checks.due("S", x.register(0, 4), 0x1000);
-        TaskComputer y = started(0, 9, 0x10, 0xce, 0x10, 0, 0x3f, 4);
-        y.run(2);
-        Checks.due("A is not kept", y.register(0, 8), 0);
-        Checks.due("taken from nowhere", y.register(0, 5), 0);
-        TaskComputer z = started(0, 9, 0x10, 0xce, 0x10, 0, 0x3f, 3);
-        z.run(2);
-        Checks.due("status is A as it was", z.status(0), 9);
-        TaskComputer w = started(0, 9, 0x10, 0xce, 0x10, 0, 0x8e, 0, 2, 0x3f, 1);
-        w.run(3);
-        Checks.due("forked with X as it was", w.register(1, 5), 130);
-        Checks.due("forked with A as it was", w.register(1, 8), 9);
-    }
-
-    private static void frameAcrossTheEndOfMemory() {
-        TaskComputer x = started(0, 9, 0x10, 0xce, 0x02, 0x04, 0x8e, 0x12, 0x34, 0x3f, 2);
-        x.run(3);
-        Checks.due("CC", x.peek(504), 128);
-        Checks.due("A", x.register(0, 8), 9);
-        Checks.due("X", x.register(0, 1), 0x1234);
-        Checks.due("PC is outside", x.register(0, 5), 0);
-        TaskComputer y = started(0, 9, 0x10, 0xce, 0x00, 0x04, 0x8e, 0x12, 0x34, 0x3f, 2);
-        y.run(3);
-        Checks.due("S", y.register(0, 4), 4);
-        Checks.due("PC", y.register(0, 5), 9);
-        Checks.due("A is outside", y.register(0, 8), 0);
-        Checks.due("X is outside", y.register(0, 1), 0);
-        Checks.due("U overwrote the code", y.peek(0), 0);
     }
 }

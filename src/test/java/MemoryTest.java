@@ -3,7 +3,9 @@ public final class MemoryTest {
     public static void main(String[] args) {
         newObjectIsEmpty();
         pokeAnswersTheOldByte();
+        everyByteIsItsOwn();
         wrongPokesChangeNothing();
+        refusedPokesOfBothKinds();
         objectsShareNothing();
         pokeChangesFrames();
         pokeChangesTheCodeThatRuns();
@@ -39,6 +41,40 @@ public final class MemoryTest {
             Checks.due("peek", x.peek(address), address & 127);
         }
         Checks.due("untouched", x.peek(2), 0);
+    }
+
+    private static void everyByteIsItsOwn() {
+        for (int rest = 0; rest < 4; rest++) {
+            TaskComputer x = new TaskComputer();
+            for (int address = rest; address < 512; address += 4) {
+                Checks.due("poke(" + address + ")", x.poke(address, mark(address)), 0);
+            }
+            for (int address = rest; address < 512; address += 4) {
+                Checks.due("peek(" + address + ")", x.peek(address), mark(address));
+                int beside = address + 1;
+                Checks.due("peek(" + beside + ")", x.peek(beside), beside == 512 ? -1 : 0);
+            }
+        }
+    }
+
+    private static int mark(int address) {
+        return 255 - (address >> 2) - (address & 1);
+    }
+
+    private static void refusedPokesOfBothKinds() {
+        TaskComputer x = new TaskComputer();
+        x.poke(0, 255);
+        Checks.due("both wrong", x.poke(512, 256), -1);
+        Checks.due("both wrong", x.poke(-1, -1), -1);
+        Checks.due("least v", x.poke(0, 0), 255);
+        Checks.due("most v", x.poke(0, 255), 0);
+        Checks.due("256 does not become 0", x.poke(0, 256), -1);
+        Checks.due("the byte stays", x.peek(0), 255);
+        Checks.due("512 is not 0", x.poke(512, 9), -1);
+        Checks.due("65536 is not 0", x.poke(65536, 9), -1);
+        Checks.due("the byte stays", x.peek(0), 255);
+        Checks.due("-1 is not 511", x.poke(-1, 9), -1);
+        Checks.due("511 stays", x.peek(511), 0);
     }
 
     private static void wrongPokesChangeNothing() {

@@ -3,7 +3,11 @@ public final class RunTest {
     public static void main(String[] args) {
         wrongCountsChangeNothing();
         zeroStepsDoNothing();
+        countsAtTheEdges();
         endsWhenNoStepIsLeft();
+        zeroStepsWithoutATask();
+        allAsleepIsNoStep();
+        idleIsAStepWhileTheTimerIsOn();
         nextTaskRunsInTheNextStep();
         tasksTakeTurns();
         Checks.end();
@@ -37,6 +41,52 @@ public final class RunTest {
         String before = Checks.pictureOf(x);
         Checks.due("run(0)", x.run(0), 0);
         Checks.due("nothing changed", Checks.pictureOf(x).equals(before), true);
+    }
+
+    private static void countsAtTheEdges() {
+        int[] good = {0, 1, 399, 400};
+        for (int n : good) {
+            TaskComputer x = looping();
+            Checks.due("run(" + n + ")", x.run(n), n);
+            Checks.due("cycles", x.cycles(), 2 * n);
+        }
+    }
+
+    private static void zeroStepsWithoutATask() {
+        TaskComputer x = new TaskComputer();
+        Checks.due("run(0)", x.run(0), 0);
+        x.timer(16);
+        Checks.due("run(0)", x.run(0), 0);
+        Checks.due("no cycles", x.cycles(), 0);
+        x.run(1);
+        Checks.due("run(0)", x.run(0), 0);
+        Checks.due("the tick stays", x.lost(), 100000);
+    }
+
+    private static void allAsleepIsNoStep() {
+        TaskComputer x = new TaskComputer();
+        Checks.pokeAll(x, 0, 0x8e, 0, 1, 0x3f, 2, 0x20, 0xfe);
+        x.start(0, 0, 0);
+        Checks.due("two steps", x.run(400), 2);
+        Checks.due("none", x.run(400), 0);
+        Checks.due("cycles", x.cycles(), 5);
+        x.timer(16);
+        Checks.due("all", x.run(10), 10);
+        Checks.due("one idle, nine of the task", x.cycles(), 5 + 16 + 18);
+    }
+
+    private static void idleIsAStepWhileTheTimerIsOn() {
+        TaskComputer x = new TaskComputer();
+        Checks.pokeAll(x, 0, 0x12, 0x3f, 3);
+        x.start(0, 0, 0);
+        x.timer(100);
+        Checks.due("run", x.run(3), 3);
+        Checks.due("what was left went by", x.cycles(), 100);
+        Checks.due("left", x.left(), 100);
+        x.timer(0);
+        Checks.due("off: no step", x.run(3), 0);
+        Checks.due("the tick was served", x.ticks(), 1);
+        Checks.due("cycles stay", x.cycles(), 100);
     }
 
     private static void endsWhenNoStepIsLeft() {

@@ -4,12 +4,21 @@ public final class TasksTest {
         startedTaskRunsAtOnce();
         startLaysAFrame();
         laterTasksQueue();
+        startRunsAtOnceBesideSleepers();
+        startsAtTheEdges();
         wrongStartsChangeNothing();
+        aSleepingTaskIsNotStarted();
+        fullAndEmptyQueue();
         stopTakesTheNext();
+        stopOfTheOnlyTask();
+        stopBesideSleepers();
         stopOfReadyAndSleeping();
+        stoppedSleeperIsNotWoken();
         wrongStopsChangeNothing();
         statusOutlivesAStart();
+        statusesOfAllEnds();
         registersOfAllStates();
+        registersOfAnEndedTask();
         wrongQuestions();
         Checks.end();
     }
@@ -81,11 +90,80 @@ public final class TasksTest {
         Checks.due("start again", x.start(2, 2, 0), false);
     }
 
+    /** Tasks with these numbers that all sleep for two ticks. */
+    private static TaskComputer sleeping(int... numbers) {
+        TaskComputer x = new TaskComputer();
+        Checks.pokeAll(x, 0, 0x8e, 0, 2, 0x3f, 2, 0x12, 0x20, 0xfe);
+        for (int t : numbers) {
+            x.start(t, 0, t);
+        }
+        Checks.due("fall asleep", x.run(2 * numbers.length), 2 * numbers.length);
+        for (int t : numbers) {
+            Checks.due("SLEEPING", x.state(t), 3);
+        }
+        return x;
+    }
+
+    private static void startRunsAtOnceBesideSleepers() {
+        TaskComputer x = sleeping(0, 1);
+        Checks.due("start", x.start(3, 7, 1), true);
+        Checks.due("RUNNING at once", x.state(3), 1);
+        Checks.due("not queued", x.queued(0), -1);
+        x.start(2, 7, 1);
+        Checks.due("the next is READY", x.state(2), 2);
+        Checks.due("queued", x.queued(0), 2);
+    }
+
+    private static void startsAtTheEdges() {
+        TaskComputer x = new TaskComputer();
+        Checks.due("all least", x.start(0, 0, 0), true);
+        Checks.due("all most", x.start(3, 65535, 255), true);
+        Checks.due("PC", x.register(3, 5), 65535);
+        Checks.due("A", x.register(3, 8), 255);
+        Checks.due("S", x.register(3, 4), 512);
+        Checks.due("its frame's end", x.peek(511), 255);
+        Checks.due("its frame's CC", x.peek(500), 128);
+    }
+
+    private static void aSleepingTaskIsNotStarted() {
+        TaskComputer x = sleeping(1);
+        String before = Checks.pictureOf(x);
+        Checks.due("start", x.start(1, 0, 0), false);
+        Checks.due("nothing changed", Checks.pictureOf(x).equals(before), true);
+        Checks.due("it sleeps on", x.sleeps(1), 2);
+    }
+
+    private static void fullAndEmptyQueue() {
+        TaskComputer x = new TaskComputer();
+        Checks.due("empty", x.queued(0), -1);
+        x.start(3, 0, 0);
+        Checks.due("the RUNNING one is not in it", x.queued(0), -1);
+        x.start(2, 0, 0);
+        x.start(1, 0, 0);
+        x.start(0, 0, 0);
+        int[] wanted = {2, 1, 0, -1};
+        for (int k = 0; k < 4; k++) {
+            Checks.due("queued(" + k + ")", x.queued(k), wanted[k]);
+        }
+        for (int t = 0; t < 4; t++) {
+            Checks.due("none can be started", x.start(t, 0, 0), false);
+        }
+        x.stop(3);
+        Checks.due("moved up", x.queued(0), 1);
+        Checks.due("moved up", x.queued(1), 0);
+        Checks.due("shorter", x.queued(2), -1);
+    }
+
     private static void wrongStartsChangeNothing() {
         TaskComputer x = new TaskComputer();
         x.start(0, 10, 1);
         x.start(1, 10, 1);
         String before = Checks.pictureOf(x);
+        Checks.due("no task MIN", x.start(Integer.MIN_VALUE, 0, 0), false);
+        Checks.due("address MIN", x.start(2, Integer.MIN_VALUE, 0), false);
+        Checks.due("address MAX", x.start(2, Integer.MAX_VALUE, 0), false);
+        Checks.due("a MIN", x.start(2, 0, Integer.MIN_VALUE), false);
+        Checks.due("a MAX", x.start(2, 0, Integer.MAX_VALUE), false);
         Checks.due("no task -1", x.start(-1, 0, 0), false);
         Checks.due("no task 4", x.start(4, 0, 0), false);
         Checks.due("no task MAX", x.start(Integer.MAX_VALUE, 0, 0), false);
@@ -111,6 +189,40 @@ public final class TasksTest {
         Checks.due("queued(0)", x.queued(0), 2);
         Checks.due("queued(1)", x.queued(1), -1);
         Checks.due("stop(0) again", x.stop(0), false);
+    }
+
+    private static void stopOfTheOnlyTask() {
+        TaskComputer x = new TaskComputer();
+        x.start(2, 10, 1);
+        Checks.due("stop", x.stop(2), true);
+        Checks.due("FREE", x.state(2), 0);
+        Checks.due("no step", x.run(3), 0);
+        Checks.due("no cycles", x.cycles(), 0);
+        Checks.due("start anew", x.start(2, 20, 3), true);
+        Checks.due("RUNNING", x.state(2), 1);
+        Checks.due("PC", x.register(2, 5), 20);
+    }
+
+    private static void stopBesideSleepers() {
+        TaskComputer x = sleeping(0, 1);
+        x.start(2, 10, 1);
+        x.stop(2);
+        Checks.due("sleepers are not taken", x.state(0), 3);
+        Checks.due("no step", x.run(3), 0);
+    }
+
+    private static void stoppedSleeperIsNotWoken() {
+        TaskComputer x = sleeping(0, 1);
+        x.stop(0);
+        x.timer(16);
+        x.run(3);
+        Checks.due("ticks", x.ticks(), 2);
+        Checks.due("the other runs", x.state(1), 1);
+        Checks.due("the stopped one is FREE", x.state(0), 0);
+        Checks.due("none queued", x.queued(0), -1);
+        x.start(0, 10, 0);
+        Checks.due("no sleep is left of before", x.sleeps(0), 0);
+        Checks.due("READY", x.state(0), 2);
     }
 
     private static void stopOfReadyAndSleeping() {
@@ -161,6 +273,37 @@ public final class TasksTest {
         x.run(1);
         Checks.due("INVALID", x.status(0), 255);
         Checks.due("others", x.status(1), 0);
+    }
+
+    private static void statusesOfAllEnds() {
+        int[] statuses = {0, 1, 254, 255};
+        for (int a : statuses) {
+            TaskComputer x = new TaskComputer();
+            Checks.pokeAll(x, 0, 0x3f, 3);
+            x.start(3, 0, a);
+            x.run(1);
+            Checks.due("EXIT", x.status(3), a);
+        }
+        TaskComputer x = sleeping(0);
+        x.start(1, 10, 0);
+        x.start(2, 10, 0);
+        for (int t = 0; t < 3; t++) {
+            x.stop(t);
+            Checks.due("stopped", x.status(t), 254);
+            Checks.due("stop again", x.stop(t), false);
+            Checks.due("status stays", x.status(t), 254);
+        }
+        Checks.due("never started", x.status(3), 0);
+    }
+
+    private static void registersOfAnEndedTask() {
+        TaskComputer x = new TaskComputer();
+        Checks.pokeAll(x, 0, 0x3f, 3);
+        x.start(0, 0, 5);
+        x.run(1);
+        for (int k = -1; k <= 12; k++) {
+            Checks.due("register(0, " + k + ") of a FREE task", x.register(0, k), -1);
+        }
     }
 
     private static void registersOfAllStates() {

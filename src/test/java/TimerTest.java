@@ -9,8 +9,18 @@ public final class TimerTest {
         maskedTicksAreLost();
         pendingTickOutlivesTheTimer();
         idleStepsPassLeft();
+        leftAtTheEdgesOfATick();
+        maskedWhileTheTimerIsOff();
+        tickOfTheStepThatMasks();
+        maskOfATaskThatGaveWay();
+        tickAloneStacksAndTakes();
+        tickWithoutAnyTask();
+        offBeforeItsTick();
         sleepersWakeInOrder();
+        sleepersOfManyLengths();
+        tickOfTheSleepCall();
         sleepCountsDown();
+        sleepsOfOthersAreZero();
         cyclesGoByWithTheTimerOff();
         Checks.end();
     }
@@ -187,6 +197,162 @@ public final class TimerTest {
         Checks.due("ticks", x.ticks(), 399);
         Checks.due("lost", x.lost(), 100000);
         Checks.due("left", x.left(), 1000);
+    }
+
+    private static void leftAtTheEdgesOfATick() {
+        int[] periods = {16, 17, 1000};
+        for (int p : periods) {
+            TaskComputer x = new TaskComputer();
+            Checks.pokeAll(x, 0, 0x4c, 0x20, 0xfd);
+            x.start(0, 0, 0);
+            x.timer(p);
+            int due = p;
+            for (int step = 1; step <= 60; step++) {
+                x.run(1);
+                due -= step % 2 == 1 ? 1 : 2;
+                due = due <= 0 ? due + p : due;
+                Checks.due("left of " + p, x.left(), due);
+            }
+            Checks.due("cycles", x.cycles(), 90);
+            Checks.due("lost", x.lost() % 100000, 0);
+        }
+    }
+
+    private static void maskedWhileTheTimerIsOff() {
+        TaskComputer x = withNothings(0x1a, 16);
+        x.timer(16);
+        x.run(15);
+        x.timer(0);
+        x.run(50);
+        Checks.due("none is lost while it is off", x.lost(), 100000);
+        Checks.due("none is served", x.ticks(), 0);
+        x.timer(16);
+        Checks.due("still pending", x.lost(), 100000);
+        x.run(16);
+        Checks.due("one is lost", x.lost(), 100001);
+    }
+
+    /** I is set by the very instruction with which the tick comes: it is not served. */
+    private static void tickOfTheStepThatMasks() {
+        TaskComputer x = withNothings(0x12, 0x12);
+        x.poke(14, 0x1a);
+        x.poke(15, 16);
+        x.timer(16);
+        x.run(15);
+        Checks.due("pending", x.lost(), 100000);
+        x.run(5);
+        Checks.due("not served", x.ticks(), 0);
+        Checks.due("pending", x.lost(), 100000);
+        Checks.due("RUNNING", x.state(0), 1);
+    }
+
+    /** The I of a READY task does not count: the RUNNING one has I = 0. */
+    private static void maskOfATaskThatGaveWay() {
+        TaskComputer x = new TaskComputer();
+        Checks.pokeAll(x, 0, 0x1a, 16, 0x12, 0x12, 0x3f, 2, 0x12, 0x12);
+        Checks.pokeAll(x, 128, 0x20, 0xfe);
+        x.start(0, 0, 0);
+        x.start(1, 128, 0);
+        x.timer(16);
+        x.run(4);
+        Checks.due("it gave way", x.state(0), 2);
+        Checks.due("left", x.left(), 10);
+        x.run(5);
+        Checks.due("pending", x.lost(), 100000);
+        x.run(1);
+        Checks.due("served", x.ticks(), 1);
+        Checks.due("the one with I runs", x.state(0), 1);
+        Checks.due("its I", x.register(0, 10), 128 + 16);
+        x.run(2);
+        Checks.due("no tick is served meanwhile", x.ticks(), 1);
+    }
+
+    private static void tickAloneStacksAndTakes() {
+        TaskComputer x = withNothings(0x12, 0x12);
+        x.timer(16);
+        x.run(17);
+        Checks.due("RUNNING again", x.state(0), 1);
+        Checks.due("none queued", x.queued(0), -1);
+        Checks.due("frame's PC", x.peek(127), 16);
+        Checks.due("went on", x.register(0, 5), 17);
+        Checks.due("S", x.register(0, 4), 128);
+        Checks.due("stacking takes no cycles", x.cycles(), 17);
+    }
+
+    private static void tickWithoutAnyTask() {
+        TaskComputer x = new TaskComputer();
+        x.timer(16);
+        Checks.due("run", x.run(1), 1);
+        Checks.due("pending", x.lost(), 100000);
+        Checks.due("not served", x.ticks(), 0);
+        Checks.due("run", x.run(1), 1);
+        Checks.due("served, and the next is pending", x.lost(), 100000);
+        Checks.due("served", x.ticks(), 1);
+        Checks.due("none lost", x.lost() % 100000, 0);
+        Checks.due("cycles", x.cycles(), 32);
+        x.start(0, 0, 5);
+        Checks.due("a start serves none", x.ticks(), 1);
+        x.run(1);
+        Checks.due("the next step does", x.ticks(), 2);
+    }
+
+    private static void offBeforeItsTick() {
+        TaskComputer x = withNothings(0x12, 0x12);
+        x.timer(16);
+        x.run(15);
+        x.timer(0);
+        Checks.due("left", x.left(), 0);
+        x.run(20);
+        Checks.due("no tick", x.lost(), 0);
+        Checks.due("left stays", x.left(), 0);
+        x.timer(17);
+        Checks.due("left is whole", x.left(), 17);
+    }
+
+    private static void sleepersOfManyLengths() {
+        TaskComputer x = new TaskComputer();
+        int[] lengths = {2, 1, 3, 1};
+        for (int t = 3; t >= 0; t--) {
+            Checks.pokeAll(x, 128 * t, 0x8e, 0, lengths[t], 0x3f, 2, 0x20, 0xfe);
+            x.start(t, 128 * t, 0);
+        }
+        x.run(8);
+        x.timer(1000);
+        x.run(1);
+        Checks.due("all sleep on", x.sleeps(0) + x.sleeps(1) + x.sleeps(2) + x.sleeps(3), 7);
+        x.run(1);
+        int[] rest = {1, 0, 2, 0};
+        int[] states = {3, 1, 3, 2};
+        for (int t = 0; t < 4; t++) {
+            Checks.due("sleeps(" + t + ")", x.sleeps(t), rest[t]);
+            Checks.due("state(" + t + ")", x.state(t), states[t]);
+        }
+        Checks.due("queued(0)", x.queued(0), 3);
+        Checks.due("queued(1)", x.queued(1), -1);
+    }
+
+    /** The cycles of the call go by when the task sleeps already: their tick counts for it. */
+    private static void tickOfTheSleepCall() {
+        TaskComputer x = withNothings(0x12, 0x12);
+        Checks.pokeAll(x, 11, 0x8e, 0, 1, 0x3f, 2);
+        x.timer(16);
+        x.run(13);
+        Checks.due("asleep", x.sleeps(0), 1);
+        Checks.due("pending", x.lost(), 100000);
+        Checks.due("cycles", x.cycles(), 16);
+        x.run(1);
+        Checks.due("awake", x.state(0), 1);
+        Checks.due("it went on", x.cycles(), 17);
+        Checks.due("ticks", x.ticks(), 1);
+    }
+
+    private static void sleepsOfOthersAreZero() {
+        TaskComputer x = withNothings(0x12, 0x12);
+        x.start(1, 10, 0);
+        int[] numbers = {0, 1, 2, 3, 4, -1, Integer.MIN_VALUE, Integer.MAX_VALUE};
+        for (int t : numbers) {
+            Checks.due("sleeps(" + t + ")", x.sleeps(t), 0);
+        }
     }
 
     private static void sleepersWakeInOrder() {

@@ -122,6 +122,25 @@ public final class AddressingTest {
         bench("STS ,--S").does(0x10, 0xef, 0xe3).holds(126, 0).holds(127, 126);
         bench("LDA A,X").with(Bench.X, 40).with(Bench.A, 2).bytes(42, 9).does(0xa6, 0x86)
                 .has(Bench.A, 9);
+        bench("LDD D,X").with(Bench.X, 40).with(Bench.D, 5).bytes(45, 1, 2).does(0xec, 0x8b)
+                .has(Bench.D, 258);
+        bench("STD B,X").with(Bench.X, 40).with(Bench.D, 0x0105).does(0xed, 0x85).holds(45, 1)
+                .holds(46, 5);
+        bench("LDU ,U++").with(Bench.U, 40).bytes(40, 1, 2).does(0xee, 0xc1).has(Bench.U, 258);
+        bench("STU ,--U").with(Bench.U, 40).does(0xef, 0xc3).holds(38, 0).holds(39, 38);
+        bench("LDS ,S++").bytes(128, 1, 2).does(0x10, 0xee, 0xe1).has(Bench.S, 258);
+        bench("STS ,S++").does(0x10, 0xef, 0xe1).holds(128, 0).holds(129, 130);
+        bench("STY ,Y+").with(Bench.Y, 40).does(0x10, 0xaf, 0xa0).holds(41, 41).has(Bench.Y, 41);
+        bench("CMPY ,--Y").with(Bench.Y, 40).bytes(38, 0, 38).does(0x10, 0xac, 0xa3)
+                .has(Bench.CC, 4);
+        bench("LEAS ,S++").does(0x32, 0xe1).has(Bench.S, 128);
+        bench("LEAU ,--U").with(Bench.U, 40).does(0x33, 0xc3).has(Bench.U, 38);
+        bench("LEAX [,X++]").with(Bench.X, 40).bytes(40, 1, 2).does(0x30, 0x91)
+                .has(Bench.X, 258);
+        bench("JMP ,X++").with(Bench.X, 40).does(0x6e, 0x81).at(40).has(Bench.X, 42);
+        bench("INC ,X+").with(Bench.X, 40).does(0x6c, 0x80).holds(40, 1).has(Bench.X, 41);
+        bench("CLR ,-X").with(Bench.X, 40).bytes(39, 7).does(0x6f, 0x82).holds(39, 0)
+                .has(Bench.X, 39).took(3);
         bench("JSR ,S++").does(0xad, 0xe1).at(128).has(Bench.S, 128).holds(128, 1).holds(129, 46);
         bench("JSR [,S++]").bytes(128, 0, 60).does(0xad, 0xf1).at(60).has(Bench.S, 128)
                 .holds(128, 1).holds(129, 46).took(6);

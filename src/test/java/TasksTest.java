@@ -12,6 +12,7 @@ public final class TasksTest {
         stopTakesTheNext();
         stopOfTheOnlyTask();
         stopBesideSleepers();
+        stopStoresNothing();
         stopOfReadyAndSleeping();
         stoppedSleeperIsNotWoken();
         wrongStopsChangeNothing();
@@ -209,6 +210,23 @@ public final class TasksTest {
         x.stop(2);
         Checks.due("sleepers are not taken", x.state(0), 3);
         Checks.due("no step", x.run(3), 0);
+    }
+
+    /** Neither the one that is stopped is stacked, nor does the taken one leave its frame. */
+    private static void stopStoresNothing() {
+        TaskComputer x = new TaskComputer();
+        Checks.pokeAll(x, 0, 0x86, 99, 0x20, 0xfe);
+        x.start(0, 0, 5);
+        x.start(1, 0, 6);
+        x.run(2);
+        int cycles = x.cycles();
+        x.stop(0);
+        Checks.due("A of the frame at its start", x.peek(117), 5);
+        Checks.due("PC of the frame at its start", x.peek(127), 0);
+        Checks.due("A of the frame that was taken", x.peek(245), 6);
+        Checks.due("CC of the frame that was taken", x.peek(244), 128);
+        Checks.due("no cycles", x.cycles(), cycles);
+        Checks.due("S", x.register(1, 4), 256);
     }
 
     private static void stoppedSleeperIsNotWoken() {

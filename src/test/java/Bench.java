@@ -76,17 +76,20 @@ final class Bench {
 
     /** The task goes on at this address: neither ended nor elsewhere. */
     Bench at(int pc) {
-        Checks.due(name + ": state(0)", computer.state(0), 1);
-        return has(PC, pc);
+        return state(1).has(PC, pc);
     }
 
-    Bench isValid() {
-        Checks.due(name + ": state(0) of a valid one", computer.state(0), 1);
+    Bench state(int state) {
+        Checks.due(name + ": state(0)", computer.state(0), state);
         return this;
     }
 
+    Bench isValid() {
+        return state(1);
+    }
+
     Bench isInvalid() {
-        Checks.due(name + ": state(0)", computer.state(0), 0);
+        state(0);
         Checks.due(name + ": status(0)", computer.status(0), 255);
         return took(1);
     }

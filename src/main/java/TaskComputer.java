@@ -875,7 +875,7 @@ public final class TaskComputer {
         }
     }
 
-    /** Lets the tasks take turns; the registers are those of the running one, while there is one. */
+    /** Lets the tasks take turns; the registers are those of the running one, if there is one. */
     private static final class Kernel {
         static final int STATUS_STOPPED = 254;
         private static final int STATUS_INVALID = 255;

@@ -10,6 +10,7 @@ public final class RunTest {
         idleIsAStepWhileTheTimerIsOn();
         nextTaskRunsInTheNextStep();
         tasksTakeTurns();
+        exampleOfTheReadme();
         Checks.end();
     }
 
@@ -136,5 +137,18 @@ public final class RunTest {
         Checks.due("ticks", x.ticks(), 3);
         Checks.due("queued(0)", x.queued(0), 1);
         Checks.due("queued(1)", x.queued(1), 2);
+    }
+
+    private static void exampleOfTheReadme() {
+        TaskComputer computer = new TaskComputer();
+        Checks.pokeAll(computer, 0, 0x86, 5, 0x4a, 0x26, 0xfd, 0x3f, 3);
+        Checks.due("start", computer.start(0, 0, 7), true);
+        Checks.due("A as started", computer.register(0, 8), 7);
+        Checks.due("timer", computer.timer(100), true);
+        Checks.due("run", computer.run(12), 12);
+        Checks.due("FREE", computer.state(0), 0);
+        Checks.due("status", computer.status(0), 0);
+        Checks.due("cycles", computer.cycles(), 19);
+        Checks.due("left", computer.left(), 81);
     }
 }
